@@ -389,6 +389,7 @@ public final class PagingKernel {
         /** NEW, or the number of the page's frame, or FIRST_SLOT_HOME plus that of its slot. */
         private final int[] home = new int[PAGES];
         private final int[] pageInFrame;
+        /** Of no meaning where the frame is free. */
         private final boolean[] marked;
         private final int[] pageInSlot;
         private int hand = 0;
@@ -474,16 +475,19 @@ public final class PagingKernel {
 
         /** Answers false if out of memory. */
         boolean touch(int page) {
-            if (!isIn(page)) {
-                int frame = getFrame();
-                if (frame == NONE) {
-                    return false;
-                }
-                vacate(page);
-                settle(page, frame);
-                fills++;
+            if (isIn(page)) {
+                marked[home[page]] = true;
+                return true;
             }
-            marked[home[page]] = true;
+            // A page that is out keeps its slot until it has a frame: the slot is no help in
+            // getting one.
+            int frame = getFrame();
+            if (frame == NONE) {
+                return false;
+            }
+            vacate(page);
+            settle(page, frame);
+            fills++;
             return true;
         }
 
@@ -502,7 +506,6 @@ public final class PagingKernel {
             int copy = newPage();
             System.arraycopy(words, page * WORDS, words, copy * WORDS, WORDS);
             settle(copy, frame);
-            marked[frame] = true;
             copies++;
             leave(page);
             return copy;
@@ -567,12 +570,12 @@ public final class PagingKernel {
         private void settle(int page, int frame) {
             pageInFrame[frame] = page;
             home[page] = frame;
+            marked[frame] = true;
         }
 
         private void vacate(int page) {
             if (isIn(page)) {
                 pageInFrame[home[page]] = NONE;
-                marked[home[page]] = false;
             } else if (home[page] != NEW) {
                 pageInSlot[home[page] - FIRST_SLOT_HOME] = NONE;
             }

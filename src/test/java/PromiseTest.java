@@ -17,6 +17,7 @@ public final class PromiseTest {
         writeOutOfMemory();
         stackGrows();
         gettingAFrame();
+        allPlaces();
         sweep();
         swapOut();
         where();
@@ -365,6 +366,26 @@ public final class PromiseTest {
             where(0, 8) = 100; where(0, 12) = 101; where(0, 16) = 102; count(1) = 0
             exec(0, 0) = 4; count(1) = 3
             """);
+    }
+
+    private static void allPlaces() {
+        StringBuilder rows = new StringBuilder("fork(0) = 1; fork(0) = 2; fork(0) = 3; fork(0) = 4; fork(0) = 5\n");
+        for (int process = 0; process < 6; process++) {
+            String p = "(" + process + ", ";
+            rows.append("exec" + p + "2) = 16; grow" + p + "2) = 6; read" + p + "32) = 0\n");
+        }
+        for (int process = 0; process < 6; process++) {
+            for (int address = 8; address < 44; address += 4) {
+                rows.append("sharers(" + process + ", " + address + ") = 1\n");
+            }
+            rows.append("write(" + process + ", 32, " + process + ") = 0; write(" + process + ", 8, 9) = 0\n");
+        }
+        for (int process = 0; process < 6; process++) {
+            String p = "(" + process + ", ";
+            rows.append("read" + p + "32) = " + process + "; read" + p + "8) = 9; read" + p + "36) = 0\n");
+        }
+        rows.append("fork(0) = UnsupportedOperationException; count(2) = 28; count(1) = 12; count(4) = 6");
+        SCRIPT.play("terms: every place of every process has a page of its own", 10, 20, rows.toString());
     }
 
     private static void sweep() {
