@@ -574,10 +574,11 @@ public final class PagingKernel {
         }
 
         private void vacate(int page) {
-            if (isIn(page)) {
-                pageInFrame[home[page]] = NONE;
-            } else if (home[page] != NEW) {
-                pageInSlot[home[page] - FIRST_SLOT_HOME] = NONE;
+            int left = home[page];
+            if (left >= FIRST_SLOT_HOME) {
+                pageInSlot[left - FIRST_SLOT_HOME] = NONE;
+            } else if (left != NEW) {
+                pageInFrame[left] = NONE;
             }
             home[page] = NEW;
         }

@@ -24,6 +24,7 @@ public final class PromiseTest {
         sharers();
         fact();
         count();
+        exampleOfTheReadme();
         SCRIPT.exitIfWrong();
     }
 
@@ -502,5 +503,13 @@ public final class PromiseTest {
             read(0, 8) = 0; count(6) = 1; grow(0, -1) = 0; count(6) = -1; read(0, 43) = 0; count(6) = 1
             """);
         SCRIPT.play("14: wrong inputs", 2, 2, "count(-1) = IllegalArgumentException; count(16) = IllegalArgumentException");
+    }
+
+    private static void exampleOfTheReadme() {
+        SCRIPT.play("README.md: the example", 3, 4, """
+            write(0, 8, 5) = 0; fork(0) = 1; sharers(0, 8) = 2; write(1, 8, 6) = 5
+            read(0, 8) = 5; read(1, 8) = 6; where(0, 8) = 0; where(1, 8) = 1
+            swapOut(0) = 1; where(0, 8) = 100; exit(1, 9) = 0; await(0) = 265
+            """);
     }
 }
